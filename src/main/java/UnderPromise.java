@@ -138,14 +138,14 @@ public final class UnderPromise {
     // ---- parts, makers
 
     public int under(int part, int above) {
-        if (!isPart(part) || !isPart(above) && above != NONE) return BAD;
+        if (!isPart(part) || (!isPart(above) && above != NONE)) return BAD;
         if (parts.standsInRowOf(above, part)) return NO;
         parts.above[part] = above;
         return 1;
     }
 
     public int maker(int part, int maker, int share) {
-        if (!isPart(part) || !isMaker(maker) && maker != NONE) return BAD;
+        if (!isPart(part) || (!isMaker(maker) && maker != NONE)) return BAD;
         if (!isWithin(share, 0, HUNDREDTHS)) return BAD;
         parts.maker[part] = maker;
         parts.share[part] = share;
@@ -243,7 +243,7 @@ public final class UnderPromise {
     }
 
     private static boolean hasBit(long bits, int place) {
-        return (bits >>> place & 1) != 0;
+        return ((bits >>> place) & 1) != 0;
     }
 
     // ---- what needs things, claims and parts together

@@ -24,6 +24,7 @@ public final class PromiseTests {
         Due.test("promise 14: chance, against all choices", PromiseTests::chanceByChoices);
         Due.test("promise 14: chance, of many things", PromiseTests::chanceOfMany);
         Due.test("promise 15: oddest", PromiseTests::oddest);
+        Due.test("promise 15: oddest, as the chances tell", PromiseTests::oddestOfFew);
         Due.test("promise 15: oddest, held exactly", PromiseTests::oddestExactly);
         Due.test("promise 16: under", PromiseTests::under);
         Due.test("promise 17: maker", PromiseTests::maker);
@@ -163,6 +164,9 @@ public final class PromiseTests {
         }
         x.promise(1, 1, 1);
         for (int i = 0; i < miles.length; i++) Due.is("last(" + i + ") of 1 month, 1 mile", x.last(i), 7);
+        x.promise(1, 10, 5);
+        Due.is("5 miles, 0 a month", x.last(0), 16);
+        Due.is("5 miles, 1 a month", x.last(1), 11);
         x.promise(1, 10, 0);
         for (int i = 0; i < miles.length; i++) Due.is("last(" + i + ") of no miles", x.last(i), NONE);
         x.promise(1, 0, 10);
@@ -485,6 +489,34 @@ public final class PromiseTests {
         }
     }
 
+    /** All few things in three batches: their chances are small enough for products across. */
+    private static void oddestOfFew() {
+        for (int first = 1; first <= 5; first++) {
+            for (int second = 1; second <= 5; second++) {
+                for (int third = 0; third <= 4; third++) {
+                    for (int hits = 0; hits < (first + 1) * (second + 1) * (third + 1); hits++) {
+                        int hit = hits % (first + 1), hitNext = hits / (first + 1) % (second + 1);
+                        int hitLast = hits / (first + 1) / (second + 1);
+                        UnderPromise x = batches(first, hit, second, hitNext, third, hitLast);
+                        Due.is("oddest of " + first + " " + second + " " + third + ", hits " + hits,
+                            x.oddest(0, 0), leastByProducts(x));
+                    }
+                }
+            }
+        }
+    }
+
+    private static int leastByProducts(UnderPromise x) {
+        int least = 0;
+        for (int batch = 1; batch < 8; batch++) {
+            if (x.chance(batch, 0, 0, 0) == NO) continue;
+            long own = x.chance(batch, 0, 0, 0) * x.chance(least, 0, 0, 1);
+            long others = x.chance(least, 0, 0, 0) * x.chance(batch, 0, 0, 1);
+            if (own < others) least = batch;
+        }
+        return least;
+    }
+
     /** Three BATCHES: of each so many THINGS, and so many of these hit. */
     private static UnderPromise batches(int... sizesAndHits) {
         UnderPromise x = new UnderPromise();
@@ -671,6 +703,12 @@ public final class PromiseTests {
         for (int i = 0; i < 4; i++) x.claim(0, 0, 21, 21, 5000);
         int[] due = {3, 13, 3, 1, 2, 3, 4, 2, 1230};
         for (int what = 0; what <= 8; what++) Due.is("count(" + what + ")", x.count(what), due[what]);
+        UnderPromise one = new UnderPromise();
+        for (int part = 0; part < 10; part++) {
+            one.thing(0, 0, 0, 0);
+            one.claim(part, part, 0, 300, 0);
+            Due.is("count(7), each by a part of its own", one.count(7), part + 1);
+        }
         Due.is("count(-1)", x.count(-1), BAD);
         Due.is("count(9)", x.count(9), BAD);
         Due.is("count(HUGE)", x.count(HUGE), BAD);
