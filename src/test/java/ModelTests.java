@@ -1,4 +1,7 @@
-/** Long runs of calls, always the same ones, on the class and on the Model: every answer must be alike. */
+/**
+ * Long runs of calls, always the same ones, on the class and on the Model: every answer must be alike. What a run
+ * chooses its numbers by it asks of the Model, since an object is promised for 512 calls only.
+ */
 public final class ModelTests {
     private static final int RUNS = 400, CALLS = 512, METHODS = 23;
 
@@ -35,7 +38,7 @@ public final class ModelTests {
     }
 
     private int thing() {
-        return from(0, Math.max(0, x.count(0) - 1));
+        return from(0, Math.max(0, y.count(0) - 1));
     }
 
     private void same(String call, long got, long want) {
@@ -45,7 +48,7 @@ public final class ModelTests {
     private void wholeRun(int run) {
         int things = 1 + below(20);
         for (int i = 0; i < things; i++) newThing(run);
-        for (int i = things; i < CALLS; i++) oneCall(run, below(METHODS + 12));
+        for (int i = things; i < CALLS - 1; i++) oneCall(run, below(METHODS + 12));
         same("run " + run + " digest()", x.digest(), y.digest());
     }
 
@@ -66,7 +69,7 @@ public final class ModelTests {
 
     private void newClaim(int run) {
         int thing = thing(), part = from(0, run % 5 == 0 ? 9 : 2), cost = from(0, 10000);
-        int sold = Math.max(0, Math.min(119, x.last(thing) - below(20)));
+        int sold = Math.max(0, Math.min(119, y.last(thing) - below(20)));
         int month = below(3) == 0 ? from(0, 300) : from(0, sold + 15);
         int told = Math.min(300, Math.max(0, month)) + from(0, 13);
         same("run " + run + " claim", x.claim(thing, part, month, told, cost), y.claim(thing, part, month, told, cost));
@@ -129,8 +132,8 @@ public final class ModelTests {
             case 13 -> same(call + "table", x.table(s, a, by), y.table(s, a, by));
             case 14 -> same(call + "delays", x.delays(by, d), y.delays(by, d));
             case 15 -> {
-                same(call + "undone", x.undone(f, by), y.undone(f, by));
-                same(call + "undone near", x.undone(by - d, by), y.undone(by - d, by));
+                int failed = below(2) == 0 ? f : by - d;
+                same(call + "undone of " + failed, x.undone(failed, by), y.undone(failed, by));
             }
             case 16 -> {
                 int which = from(0, 1);
