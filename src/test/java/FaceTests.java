@@ -26,6 +26,7 @@ public final class FaceTests {
         Due.test("fields and classes inside", FaceTests::fieldsAndClasses);
         Due.test("words that the language leaves out", () -> words(source));
         Due.test("short methods, few parameters", () -> methods(source));
+        Due.test("no call makes an object: all share one room", () -> made(source));
         Due.end();
     }
 
@@ -116,5 +117,17 @@ public final class FaceTests {
             Due.holds("parameters: " + head.group(2), head.group(2).split(",").length <= 7);
         }
         Due.holds("methods were seen: " + seen, seen >= 24);
+    }
+
+    /** Rows are made in fields, what holds them in constructors; texts, which would be objects too, are left out above. */
+    private static void made(String source) {
+        int seen = 0;
+        for (String line : source.split("\n")) {
+            if (!Pattern.compile("\\bnew\\b|\\bclone\\b|\\bcopyOf").matcher(line).find()) continue;
+            seen++;
+            Due.holds("made in a field or a constructor: " + line,
+                line.matches(" +private final \\w+\\[\\](\\[\\])? \\w+ = new .*|        \\w+ = new [A-Z]\\w+\\(\\);"));
+        }
+        Due.holds("rows were seen: " + seen, seen > 4);
     }
 }
